@@ -26,6 +26,7 @@ public final class PromiseTest {
         squash();
         squashTable();
         squashBelowHidingMarks();
+        squashDeep();
         drop();
         kind();
         value();
@@ -477,6 +478,51 @@ public final class PromiseTest {
         dueNames(1, 2, 10);
         dueNames(31, 2, 2);
         dueNames(1, 1, 14);
+    }
+
+    /** The longest paths and the last name take part in a squash too. */
+    private static void squashDeep() {
+        fresh();
+        x.make(9);
+        x.make(99);
+        x.make(999);
+        x.write(9999, 1);
+        x.write(1999, 2);
+        x.make(2999);
+        x.write(4999, 4);
+        x.write(199, 3);
+        x.write(19, 4);
+        dueLayer(2);
+        dueRemove(9999, 1);
+        dueRemove(2999, 1);
+        dueWrite(3999, 5, true);
+        dueLayer(3);
+        x.make(2999);
+        dueWrite(9999, 6, true);
+        dueRemove(1999, 1);
+        dueMark(2, 2999, 1);
+        dueSquash(1, 2);
+        dueMark(1, 999, 1);
+        dueMark(1, 1999, 3);
+        dueMark(1, 2999, 2);
+        dueMark(1, 3999, 0);
+        dueMark(1, 9999, 0);
+        dueMarks(1, 7);
+        dueNames(999, 2, 0x21C);
+        dueSquash(0, 1);
+        dueMark(0, 1999, 3);
+        dueMarks(0, 10);
+        dueNames(999, 1, 0x21C);
+        dueNames(99, 1, 0x202);
+        dueNames(9, 1, 0x202);
+        dueValue(9999, 1, 6);
+        dueValue(4999, 1, 4);
+        dueRemove(9, 9);
+        fresh();
+        x.write(9, 1);
+        dueLayer(2);
+        dueSquash(0, 1);
+        dueValue(9, 1, 1);
     }
 
     private static void drop() {
