@@ -7,16 +7,50 @@ final class Check {
 
     private static int wrong = 0;
     private static int looked = 0;
+    private static String about = "";
 
     private Check() {
+    }
+
+    /** Runs the test of one sentence of the document; what goes wrong in it is told with its words. */
+    static void sentence(String words, Runnable test) {
+        int lookedBefore = looked;
+        about = "[" + words + "] ";
+        try {
+            test.run();
+        } catch (RuntimeException e) {
+            tellWrong("the test threw " + e);
+        }
+        if (looked == lookedBefore) {
+            tellWrong("the test looked at nothing");
+        }
+        about = "";
     }
 
     static void same(String what, long got, long due) {
         looked++;
         if (got != due) {
-            wrong++;
-            System.out.println(what + " answered " + got + ", due is " + due);
+            tellWrong(what + " answered " + got + ", due is " + due);
         }
+    }
+
+    static void holds(String what, boolean isTrue) {
+        looked++;
+        if (!isTrue) {
+            tellWrong(what + ": this does not hold");
+        }
+    }
+
+    static void answers(String what, long due, Call call) {
+        long got;
+        try {
+            got = call.answer();
+        } catch (RuntimeException e) {
+            looked++;
+            tellWrong(what + " threw " + e + ", due is " + due);
+            return;
+        }
+        same(what, got, due);
     }
 
     /** The very class is due: a subclass would be an exception of the machine's. */
@@ -31,8 +65,12 @@ final class Check {
             }
             got = "threw " + e;
         }
+        tellWrong(what + " " + got + ", due is " + due.getName());
+    }
+
+    private static void tellWrong(String text) {
         wrong++;
-        System.out.println(what + " " + got + ", due is " + due.getName());
+        System.out.println(about + text);
     }
 
     static void end() {
