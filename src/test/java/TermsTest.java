@@ -811,6 +811,8 @@ public final class TermsTest {
             x.layer(n);
         }
         x.layerFails();
+        refusedWriting(x);
+        refusedLooking(x, 8);
         x.write(29, 9);
         x.write(1111, 9);
         x.layerFails();
